@@ -842,10 +842,10 @@ public final class HalfAJoke {
                 } else if (step == OVER) {
                     stack[top - 1] = numbers[i] > 0 ? stack[top - 1] / numbers[i] : 0;
                 } else if (step == SEMICOLON) {
-                    return held(stack[top - 1]);
+                    return Math.max(0, Math.min(MOST_LAUGH, stack[top - 1]));
                 } else if (step == WHEN) {
                     if (stack[top - 1] != 0) {
-                        return held(stack[top - 2]);
+                        return Math.max(0, Math.min(MOST_LAUGH, stack[top - 2]));
                     }
                     top = FLOOR;
                 } else {
@@ -854,10 +854,6 @@ public final class HalfAJoke {
                 }
             }
             return 0;
-        }
-
-        private static int held(int v) {
-            return Math.max(0, Math.min(MOST_LAUGH, v));
         }
 
         private static int joined(int step, int a, int b) {
@@ -938,7 +934,9 @@ public final class HalfAJoke {
 
         private void split() {
             tokens = 0;
-            for (int from = 0; from < length; from = Math.max(from + 1, takeToken(from))) {
+            int from = 0;
+            while (from < length) {
+                from = Math.max(from + 1, takeToken(from));
             }
             addToken(Law.END_OF_TEXT, 0, length);
         }
@@ -1032,8 +1030,8 @@ public final class HalfAJoke {
             }
         }
 
-        private void expect(int wanted) {
-            if (kind == wanted) {
+        private void expect(int first, int last) {
+            if (kind >= first && kind <= last) {
                 step();
             } else {
                 blame(CANT_STAND);
@@ -1045,14 +1043,14 @@ public final class HalfAJoke {
                 blame(TOO_MUCH);
                 return;
             }
-            expect(Law.LAUGH);
+            expect(Law.LAUGH, Law.LAUGH);
             readSum();
             int last = kind;
             if (last == Law.WHEN) {
                 step();
                 readCondition(0);
             }
-            expect(Law.SEMICOLON);
+            expect(Law.SEMICOLON, Law.SEMICOLON);
             draft.add(last, 0);
             draft.lines++;
         }
@@ -1080,35 +1078,24 @@ public final class HalfAJoke {
 
         /** Reads a C; so many ( and not are open around it. */
         private void readClause(int open) {
-            if (kind != Law.NOT && kind != Law.OPEN) {
-                readComparison();
-                return;
-            }
-            if (open >= MOST_OPEN) {
+            int first = kind;
+            if ((first == Law.NOT || first == Law.OPEN) && open >= MOST_OPEN) {
                 blame(TOO_MUCH);
-                return;
-            }
-            boolean not = kind == Law.NOT;
-            step();
-            if (not) {
+            } else if (first == Law.NOT) {
+                step();
                 readClause(open + 1);
                 draft.add(Law.NOT, 0);
-            } else {
+            } else if (first == Law.OPEN) {
+                step();
                 readCondition(open + 1);
-                expect(Law.CLOSE);
+                expect(Law.CLOSE, Law.CLOSE);
+            } else {
+                readSum();
+                int sign = kind;
+                expect(Law.LESS, Law.MORE);
+                readSum();
+                draft.add(sign, 0);
             }
-        }
-
-        private void readComparison() {
-            readSum();
-            int sign = kind;
-            if (sign < Law.LESS || sign > Law.MORE) {
-                blame(CANT_STAND);
-                return;
-            }
-            step();
-            readSum();
-            draft.add(sign, 0);
         }
 
         private void readSum() {
@@ -1227,38 +1214,40 @@ public final class HalfAJoke {
             if (family == other || isIn(other, house.feuds[family])) {
                 return false;
             }
-            for (int f = 0; f < house.halves.count; f++) {
-                if (isIn(f, fronts)) {
-                    int set = isIn(f, can[family]) ? can[other] : 0;
-                    set |= isIn(f, can[other]) ? can[family] : 0;
-                    findWith(f, set & ends);
+            int count = house.halves.count;
+            for (int f = 0; f < count; f++) {
+                int set = partnersOf(f, can[family], can[other]);
+                for (int e = 0; e < count && set != 0; e++) {
+                    if (isIn(e, set)) {
+                        int pair = pairOf(f, e);
+                        if (laughs[pair] == UNKNOWN) {
+                            laughs[pair] = house.laughOf(f, e, more[pair]);
+                        }
+                        if (laughs[pair] > laugh) {
+                            laugh = laughs[pair];
+                            front = f;
+                            end = e;
+                        }
+                    }
                 }
             }
             return laugh > 0;
         }
 
-        private void findWith(int f, int set) {
-            if (set == 0) {
-                return;
+        /** The ENDS that one of two can tell, while the other one can tell the FRONT. */
+        private int partnersOf(int f, int ones, int others) {
+            if (!isIn(f, fronts)) {
+                return 0;
             }
-            for (int e = 0; e < house.halves.count; e++) {
-                if (isIn(e, set)) {
-                    int pair = pairOf(f, e);
-                    if (laughs[pair] == UNKNOWN) {
-                        laughs[pair] = house.laughOf(f, e, more[pair]);
-                    }
-                    if (laughs[pair] > laugh) {
-                        laugh = laughs[pair];
-                        front = f;
-                        end = e;
-                    }
-                }
-            }
+            return ((isIn(f, ones) ? others : 0) | (isIn(f, others) ? ones : 0)) & ends;
         }
 
         /** Tells in thought what the two would tell: its LAUGH, 0 if there is nothing. */
         int tellBetween(int guest, int next) {
-            if (trail >= SEATS || !findBetween(guest, next)) {
+            if (trail >= SEATS || guest == NONE || next == NONE) {
+                return 0;
+            }
+            if (!findOf(house.table.family[guest], house.table.family[next])) {
                 return 0;
             }
             int pair = pairOf(front, end);
@@ -1315,7 +1304,9 @@ public final class HalfAJoke {
 
         private void place(int seat, int used, int sum) {
             if (seat >= guests) {
-                finish(sum);
+                int last = evening.tellBetween(tried[guests - 1], tried[0]);
+                takeBack(last);
+                keepBest(sum + last);
                 return;
             }
             for (int guest = 1; guest < guests; guest++) {
@@ -1323,20 +1314,20 @@ public final class HalfAJoke {
                     tried[seat] = guest;
                     int gained = evening.tellBetween(tried[seat - 1], guest);
                     place(seat + 1, used | 1 << guest, sum + gained);
-                    if (gained > 0) {
-                        evening.untell();
-                    }
+                    takeBack(gained);
                 }
             }
         }
 
-        private void finish(int sum) {
-            int gained = evening.tellBetween(tried[guests - 1], tried[0]);
+        private void takeBack(int gained) {
             if (gained > 0) {
                 evening.untell();
             }
-            if (sum + gained > merry) {
-                merry = sum + gained;
+        }
+
+        private void keepBest(int sum) {
+            if (sum > merry) {
+                merry = sum;
                 System.arraycopy(tried, 0, best, 0, guests);
             }
         }
