@@ -133,7 +133,13 @@ public final class LawTest {
         faulty("laughs 1;", 1, 0);
         faulty("laug 1;", 1, 0);
         faulty("Laugh 1;", 1, 0);
-        faulty("laughX 1;", 1, 0);
+        for (String letter : new String[] {"a", "z", "A", "Z"}) {
+            faulty("laugh" + letter + " 1;", 1, 0);
+        }
+        for (String other : new String[] {"`", "{", "@", "[", ".", ",", ":", "?", "!", "_", "\"", "\u00c0", "\u007f"}) {
+            faulty("laugh" + other + " 1;", 1, 5);
+            faulty("laugh 1" + other + ";", 1, 7);
+        }
         faulty("laugh frontend;", 1, 6);
         faulty("laugh fron;", 1, 6);
         faulty("laugh 12345;", 1, 6);

@@ -275,6 +275,10 @@ public final class PromisesTest {
         x.state(s);
         x.set(2, draw + 1);
         due("just below", x.evenings(1), 0);
+        x.set(2, 1);
+        x.state(0);
+        x.evenings(1);
+        due("drawn by the least", x.look(7), 1013904223);
     }
 
     private static void book() {
@@ -369,6 +373,11 @@ public final class PromisesTest {
         y.seat(0, 1);
         due("both can: he at the seat", y.telling(0, 2), 1);
         due("of one family", pairOfOne().telling(0, 0), -1);
+        y.give(1, 1, 0, 2);
+        due("only the other one can end it", y.telling(0, 2), 0);
+        y.give(1, 1, 2, 0);
+        y.give(1, 1, 1, 2);
+        due("he at the seat, for the other one can end it", y.telling(0, 2), 1);
     }
 
     private static HalfAJoke pairOfOne() {
@@ -714,6 +723,77 @@ public final class PromisesTest {
         due("a newer image", x.look(3), 3);
     }
 
+    private static void imageOfEvenings() {
+        HalfAJoke x = pair("laugh since;");
+        x.evenings(3);
+        x.image(true);
+        due("since", x.laugh(0, 1), 1);
+        x.evenings(4);
+        x.image(false);
+        due("since, as it was", x.laugh(0, 1), 1);
+        Check.text(x, "laugh 4;");
+        x.evenings(2);
+        x.image(true);
+        x.undo();
+        x.undo();
+        Check.text(x, "laugh 9;");
+        x.evenings(2);
+        due("other lines", x.book(x.look(6) - 1, 5), 9);
+        x.image(false);
+        due("the lines, as they were", x.book(x.look(6) - 1, 5), 4);
+        due("the law, as it was", x.laugh(0, 1), 4);
+    }
+
+    /** As much of everything as there can be, each answer asked at each edge. */
+    private static void fullHouse() {
+        HalfAJoke x = new HalfAJoke();
+        Model m = new Model();
+        String law = "laugh front+end-told*9+joke*same when since>0; laugh front/2;";
+        for (int i = 0; i < 16; i++) due("half", x.half(i % 2, i % 10, i * 6, i % 6), m.half(i % 2, i % 10, i * 6, i % 6));
+        for (int i = 0; i < 16; i++) due("give", x.give(i, 2, i % 6, 5 - i % 6), m.give(i, 2, i % 6, 5 - i % 6));
+        due("set", x.set(0, 8), m.set(0, 8));
+        for (int i = 0; i < 8; i++) {
+            due("guest", x.guest((i + 3) % 6), m.guest((i + 3) % 6));
+            due("seat", x.seat(i, i * 3 % 8), m.seat(i, i * 3 % 8));
+        }
+        m.tape.append(law);
+        due("text", Check.text(x, law), m.text());
+        for (int again = 0; again < 3; again++) {
+            due("merry", x.merry(), m.merry());
+            for (int i = -1; i < 28; i++) askOne(x, m, i);
+            for (int i = -1; i < 17; i++) for (int k = -1; k < 17; k++) askTwo(x, m, i, k);
+            due("evenings", x.evenings(4), m.evenings(4));
+        }
+        for (int i = 0; i < 7; i++) {
+            due("undo", x.undo(), m.undo());
+            for (int k = -1; k < 28; k++) askOne(x, m, k);
+            for (int f = 0; f < 16; f += 2) for (int e = 1; e < 16; e += 2) askTwo(x, m, f, e);
+        }
+        due("heirs", x.heirs(5, 31), m.heirs(5, 31));
+        for (int i = -1; i < 17; i++) for (int k = -1; k < 17; k++) askTwo(x, m, i, k);
+    }
+
+    private static void askOne(HalfAJoke x, Model m, int i) {
+        due("look", x.look(i), m.look(i));
+        due("fame", x.fame(i), m.fame(i));
+        due("change", x.change(i), m.change(i));
+        due("silent", x.silent(i), m.silent(i));
+        due("away", x.away(i * 40), m.away(i * 40));
+        due("seating", x.seating(i), m.seating(i));
+    }
+
+    private static void askTwo(HalfAJoke x, Model m, int i, int k) {
+        due("of", x.of(i, k), m.of(i, k));
+        due("who", x.who(i, k), m.who(i, k));
+        due("laugh", x.laugh(i, k), m.laugh(i, k));
+        due("told", x.told(i, k), m.told(i, k));
+        due("telling", x.telling(i, k), m.telling(i, k));
+        due("book", x.book(i, k), m.book(i, k));
+        due("like", x.like(i, k), m.like(i, k));
+        due("uncle", x.uncle(i, k), m.uncle(i, k));
+        due("worth", x.worth(i, k + 10), m.worth(i, k + 10));
+    }
+
     private static void look() {
         HalfAJoke x = pair("laugh 1;laugh 2;");
         x.evenings(1);
@@ -753,6 +833,8 @@ public final class PromisesTest {
         undo();
         undoSince();
         image();
+        imageOfEvenings();
+        fullHouse();
         look();
         Check.finish();
     }
