@@ -2,14 +2,20 @@
 final class Check {
     private static int wrong = 0;
     private static int asked = 0;
+    private static String scene = "";
 
     private Check() { }
+
+    /** What each line that is not as due begins with, from here on. */
+    static void begin(String newScene) {
+        scene = newScene;
+    }
 
     static void due(String what, int got, int want) {
         asked++;
         if (got != want) {
             wrong++;
-            System.out.println(what + " answered " + got + ", due is " + want);
+            System.out.println(scene + what + " answered " + got + ", due is " + want);
         }
     }
 
@@ -21,7 +27,7 @@ final class Check {
         asked++;
         if (!got.equals(want)) {
             wrong++;
-            System.out.println(what + " is " + got + ", due is " + want);
+            System.out.println(scene + what + " is " + got + ", due is " + want);
         }
     }
 
