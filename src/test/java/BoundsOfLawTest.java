@@ -43,6 +43,8 @@ public final class BoundsOfLawTest {
         faulty("laugh 1;;", 1, 8);
         faulty("laugh 1 when;", 1, 12);
         faulty("laugh when 1=1;", 1, 6);
+        faulty("laugh laugh;", 1, 6);
+        faulty("1 1;", 1, 0);
         faulty("laugh 1 when 1=1 when 1=1;", 1, 17);
     }
 

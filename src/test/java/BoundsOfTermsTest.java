@@ -792,6 +792,24 @@ public final class BoundsOfTermsTest {
         HalfAJoke fronts = Scenes.wits("laugh 9;", new int[] {5, 99}, new int[] {});
         due("without any", fronts.worth(1, 10), 0);
         due("without any", fronts.worth(1, 11), 0);
+        HalfAJoke endFirst = new HalfAJoke();
+        endFirst.half(1, 0, 20, 0);
+        endFirst.half(0, 0, 10, 0);
+        Check.text(endFirst, "laugh 35;");
+        due("of an end that came first", endFirst.worth(1, 10), 25);
+        due("of a front behind it", endFirst.worth(1, 11), 15);
+    }
+
+    @Says(promise = 28, sentence = "the greatest of LAUGH with one of the other kind")
+    static void worthsOfAnotherKindThanBefore() {
+        HalfAJoke x = Scenes.wits("laugh 99;", new int[] {5}, new int[] {});
+        x.image(true);
+        x.half(1, 0, 7, 0);
+        due("with an end", x.worth(1, 10), 92);
+        x.image(false);
+        x.half(0, 0, 7, 0);
+        due("without any", x.worth(1, 10), 0);
+        due("without any", x.worth(1, 11), 0);
     }
 
     @Says(promise = 28, sentence = "40 rounds at most: behind how many nothing changed any more (the round that changed nothing not counted), or the length of the circle;")
